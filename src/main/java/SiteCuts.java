@@ -360,7 +360,7 @@ public final class SiteCuts {
             case 2:
                 return planOrNone(now.best);
             case 3:
-                return upperBound();
+                return costOrNone(now.best);
             case 4:
                 return gap();
             default:
@@ -373,7 +373,7 @@ public final class SiteCuts {
             case 0:
                 return planOrNone(now.places.findBestPlan());
             case 1:
-                return leastCost();
+                return costOrNone(now.places.findBestPlan());
             case 2:
                 return now.places.countFeasiblePlans();
             default:
@@ -413,8 +413,8 @@ public final class SiteCuts {
         return masterPlan == NO_PLAN ? NONE : now.guessOf(masterPlan);
     }
 
-    private int upperBound() {
-        return now.best == NO_PLAN ? NONE : now.places.costOf(now.best);
+    private int costOrNone(int plan) {
+        return plan == NO_PLAN ? NONE : now.places.costOf(plan);
     }
 
     private int gap() {
@@ -423,11 +423,6 @@ public final class SiteCuts {
             return NONE;
         }
         return now.places.costOf(now.best) - now.guessOf(masterPlan);
-    }
-
-    private int leastCost() {
-        int plan = now.places.findBestPlan();
-        return plan == NO_PLAN ? NONE : now.places.costOf(plan);
     }
 
     private static int planOrNone(int plan) {

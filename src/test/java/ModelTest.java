@@ -7,7 +7,7 @@ import java.util.List;
  * thought of room or speed: whole copies of states, sets as boolean rows, cuts that are worked out anew.
  */
 public final class ModelTest {
-    private static final int RUNS = 700;
+    private static final int RUNS = 800;
     private static final int CALLS = 512;
 
     /** A fixed sequence of numbers, so that each run of the test is the same. */
@@ -24,9 +24,9 @@ public final class ModelTest {
             List<String> calls = new ArrayList<>();
             SiteCuts program = new SiteCuts();
             Model model = new Model();
-            int style = run % 7;
+            int style = run % 8;
             for (int call = 0; call < CALLS; call++) {
-                int[] asked = choose(style, model);
+                int[] asked = style == 7 && call > 60 ? fill(model) : choose(style, model);
                 int got = ask(program, asked);
                 int want = model.ask(asked);
                 calls.add(Arrays.toString(asked) + " answered " + got);
@@ -97,6 +97,24 @@ public final class ModelTest {
         }
         if (kind < 60) {
             return textOrHistory(style, model);
+        }
+        return question(model);
+    }
+
+    /** Calls that bring many cuts and leave them, so that there are 40 of them at some time. */
+    private static int[] fill(Model model) {
+        int kind = below(100);
+        if (kind < 50) {
+            return goodText(model);
+        }
+        if (kind < 60) {
+            return kind < 57 ? new int[] {7} : new int[] {8};
+        }
+        if (kind < 64) {
+            return kind < 62 ? new int[] {10, cut(model)} : new int[] {14};
+        }
+        if (kind == 64) {
+            return below(3) == 0 ? new int[] {11} : new int[] {5, 1 + below(7)};
         }
         return question(model);
     }

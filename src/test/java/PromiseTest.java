@@ -40,6 +40,7 @@ public final class PromiseTest {
         step();
         stepWhenFull();
         stepImprovesBest();
+        stepKeepsBest();
         promise = 10;
         solve();
         solveWhenFull();
@@ -186,8 +187,10 @@ public final class PromiseTest {
             due("addSite(7)", x.addSite(7), site);
         }
         due("addSite(1000) when there are 7", x.addSite(1000), BAD_VALUE);
+        x.step();
         due("addSite(7) when there are 7", x.addSite(7), FULL);
         due("count(0)", x.count(0), 7);
+        due("count(5), an error changes nothing", x.count(5), 1);
         due("judge(127)", x.judge(127), 3);
         due("judge(128)", x.judge(128), BAD_VALUE);
 
@@ -232,8 +235,10 @@ public final class PromiseTest {
             due("addCustomer(3)", x.addCustomer(3), customer);
         }
         due("addCustomer(0) when there are 8", x.addCustomer(0), BAD_VALUE);
+        x.step();
         due("addCustomer(3) when there are 8", x.addCustomer(3), FULL);
         due("count(1)", x.count(1), 8);
+        due("count(5), an error changes nothing", x.count(5), 1);
         for (int customer = 0; customer < 8; customer++) {
             x.setRoute(0, customer, 1);
         }
@@ -485,6 +490,29 @@ public final class PromiseTest {
         due("master(0), the least number", y.master(0), 1);
         due("step()", y.step(), 2);
         due("master(2)", y.master(2), 1);
+    }
+
+    /** A master plan that costs as much as the best plan does not take its place. */
+    private static void stepKeepsBest() {
+        SiteCuts x = new SiteCuts();
+        x.addCustomer(1);
+        x.addCustomer(1);
+        x.addSite(5);
+        x.addSite(6);
+        x.setRoute(0, 0, 4);
+        x.setRoute(0, 1, 0);
+        x.setRoute(1, 0, 0);
+        x.setRoute(1, 1, 3);
+        due("readCut()", read(x, "4,0"), 0);
+        due("step(), a ray", x.step(), 0);
+        due("master(0)", x.master(0), 2);
+        due("step(), a price cut", x.step(), 1);
+        due("master(2)", x.master(2), 2);
+        due("master(0), of several the least number", x.master(0), 1);
+        due("plan(1, 0)", x.plan(1, 0), 9);
+        due("plan(2, 0)", x.plan(2, 0), 9);
+        due("step(), all is solved", x.step(), 2);
+        due("master(2), its cost is not less", x.master(2), 2);
     }
 
     private static void solve() {
