@@ -299,6 +299,16 @@ class Boundary {
         return map(new int[] {8, 8, 8, 8, 8, 8, 8}, new int[] {1, 1, 1, 1, 1, 1, 1, 1}, routes);
     }
 
+    /** Steps from the start need just 40 cuts if the price of the last site is 4, and more if it is 1: 72 calls. */
+    static SiteCuts stubborn(int lastPrice) {
+        SiteCuts x = map(new int[] {1, 1, 2, 1, 2, 1, lastPrice}, new int[] {2, 12, 4, 9, 10, 9, 7, 12}, new int[][] {
+            {22, 4, 100, 93, 18, 21, 72, 100}, {57, 13, 24, 100, 1, 100, 59, 100}, {69, 96, 68, 45, 10, 12, 47, 81},
+            {100, 20, 100, 27, 100, 78, 100, 19}, {67, 13, 85, 51, 91, 33, 35, 10}, {52, 57, 54, 100, 25, 100, 7, 30},
+            {52, 74, 2, 61, 100, 28, 55, 17}});
+        x.setMost(3);
+        return x;
+    }
+
     /** Solved, with a text, a snapshot of other places, a full history, two rays, a price cut, a best plan. */
     static SiteCuts rich() {
         SiteCuts x = write(new SiteCuts(), "3,2");

@@ -341,6 +341,12 @@ public final class CallsBoundaryTest extends Boundary {
         due("solve(), solved with 40", filled(with(Boundary::three, s -> s.solve()), "0,0", 37).solve(), 0);
         act(() -> filled(torn.make(), "0,0", 38), "solve(), 40 and no step is possible", s -> s.solve(), 2);
         refused(() -> filled(torn.make(), "0,0", 39), "solve(), 41 ahead of no step", s -> s.solve(), FULL);
+        SiteCuts stubborn = stubborn(4);
+        due("solve(), 40 from the start", stubborn.solve(), 40);
+        due("count(7)", stubborn.count(7), 41);
+        due("master(3)", stubborn.master(3), stubborn.byAll(1));
+        due("solve(), 41 from the start", stubborn(1).solve(), FULL);
+        refused(() -> with(() -> stubborn(1), s -> s.step()), "solve(), 40 more behind a step", s -> s.solve(), FULL);
     }
 
     private static void readCut() {

@@ -1,4 +1,5 @@
 import java.io.IOException;
+import java.lang.reflect.Array;
 import java.lang.reflect.Constructor;
 import java.lang.reflect.Field;
 import java.lang.reflect.Method;
@@ -7,7 +8,12 @@ import java.nio.file.Files;
 import java.nio.file.Path;
 import java.util.ArrayList;
 import java.util.Arrays;
+import java.util.Collections;
+import java.util.IdentityHashMap;
 import java.util.List;
+import java.util.Map;
+import java.util.Set;
+import java.util.TreeMap;
 import java.util.TreeSet;
 import java.util.regex.Matcher;
 import java.util.regex.Pattern;
@@ -45,6 +51,7 @@ public final class LanguageTest {
             fields(inner);
         }
         fields(SiteCuts.class);
+        room();
         demand(SiteCuts.class.getDeclaredClasses().length <= 11, "there are at most 12 classes");
         text();
         System.out.println(wrong == 0 ? "the face and the language are as due" : wrong + " faults");
@@ -133,6 +140,7 @@ public final class LanguageTest {
         }
         demand(sign == whole.length(), "all signs of the file are plain ones");
         methodsAreShort(whole);
+        readMethods(code);
     }
 
     private static void methodsAreShort(String whole) {
@@ -146,5 +154,91 @@ public final class LanguageTest {
             opened = isEnd ? -1 : opened;
             demand(lines[line].length() <= 120, "line " + (line + 1) + " is short");
         }
+    }
+
+    // ---- what is made, and how deep calls go
+
+    /** Objects are made in constructors alone, so that no call but these takes room; calls go at most eight deep. */
+    private static void readMethods(String code) {
+        Map<String, Set<String>> calls = new TreeMap<>();
+        Matcher heads = Pattern.compile("(?m)^ {4}(?: {4})?(?!return|else)(?:[\\w\\[\\]]+ )*(\\w+)\\([^;()]*\\) \\{$")
+            .matcher(code);
+        List<Integer> headStarts = new ArrayList<>();
+        List<Integer> headEnds = new ArrayList<>();
+        List<String> names = new ArrayList<>();
+        while (heads.find()) {
+            headStarts.add(heads.start());
+            headEnds.add(heads.end());
+            names.add(heads.group(1));
+        }
+        headStarts.add(code.length());
+        for (int i = 0; i < headEnds.size(); i++) {
+            String body = code.substring(headEnds.get(i), headStarts.get(i + 1));
+            boolean isConstructor = Character.isUpperCase(names.get(i).charAt(0));
+            demand(isConstructor || !Pattern.compile("\\bnew\\b").matcher(body).find(), names.get(i) + "() makes nothing");
+            Set<String> called = calls.computeIfAbsent(names.get(i), name -> new TreeSet<>());
+            Matcher uses = Pattern.compile("\\b([a-z]\\w*)\\(").matcher(body);
+            while (uses.find()) {
+                called.add(uses.group(1));
+            }
+        }
+        demand(names.size() > METHODS.length, "methods are found: " + names.size());
+        for (String name : calls.keySet()) {
+            int depth = depth(name, calls, 0);
+            demand(depth <= 8, name + "() goes " + depth + " deep");
+        }
+    }
+
+    /** Names that several classes share are taken together; what bears the same name again is not counted. */
+    private static int depth(String name, Map<String, Set<String>> calls, int above) {
+        int deepest = 0;
+        for (String called : calls.getOrDefault(name, Set.of())) {
+            if (!called.equals(name) && above < 20 && calls.containsKey(called)) {
+                deepest = Math.max(deepest, depth(called, calls, above + 1));
+            }
+        }
+        return deepest + 1;
+    }
+
+    /** The room of one object: some 600,000 objects and 7.3 million elements are for all that a run makes. */
+    private static void room() throws IllegalAccessException {
+        SiteCuts x = new SiteCuts();
+        Set<Object> made = Collections.newSetFromMap(new IdentityHashMap<>());
+        long elements = reach(x, made);
+        demand(made.size() <= 500, "a SiteCuts is " + made.size() + " objects and arrays");
+        demand(elements <= 5000, "a SiteCuts holds " + elements + " fields and elements");
+        for (int call = 0; call < 100; call++) {
+            x.addSite(call);
+            x.addCustomer(1 + call % 20);
+            x.setRoute(call % 7, call % 8, call);
+            x.solve();
+            x.type('1');
+        }
+        Set<Object> used = Collections.newSetFromMap(new IdentityHashMap<>());
+        demand(reach(x, used) == elements && made.containsAll(used), "a SiteCuts holds what it was made with");
+    }
+
+    private static long reach(Object object, Set<Object> seen) throws IllegalAccessException {
+        if (object == null || !seen.add(object)) {
+            return 0;
+        }
+        if (object instanceof Object[]) {
+            long held = ((Object[]) object).length;
+            for (Object row : (Object[]) object) {
+                held += reach(row, seen);
+            }
+            return held;
+        }
+        if (object.getClass().isArray()) {
+            return Array.getLength(object);
+        }
+        long elements = 0;
+        for (Field field : object.getClass().getDeclaredFields()) {
+            if (!Modifier.isStatic(field.getModifiers())) {
+                field.setAccessible(true);
+                elements += 1 + (field.getType().isPrimitive() ? 0 : reach(field.get(object), seen));
+            }
+        }
+        return elements;
     }
 }

@@ -66,6 +66,10 @@ public final class TellsBoundaryTest extends Boundary {
         sentence("3 for its guess by the cuts (also if it does not fulfil them)");
         due("plan(0, 3), it fulfils no ray", x.plan(0, 3), 16);
         due("plan(7, 3), not allowed", x.plan(7, 3), 51);
+        x.drop(2);
+        due("plan(0, 3), rays guess nothing", x.plan(0, 3), 0);
+        due("plan(1, 3), rays guess nothing", x.plan(1, 3), 10);
+        x.undo();
         due("plan(0, 3) without cuts", three().plan(0, 3), 0);
         due("plan(7, 3) without cuts", three().plan(7, 3), 44);
         sentence("4 for the rays that it does not fulfil");
